@@ -59,7 +59,7 @@ public final class TidingsDesk {
         ledger = new Ledger();
         known = new Known();
         hands = new Hands();
-        pairs = new Pairs(known, hands);
+        pairs = new Pairs();
         grouping = new Grouping();
         search = new FormSearch();
         now = 0;
@@ -172,7 +172,7 @@ public final class TidingsDesk {
     }
 
     public int pair(int one, int other, int q) {
-        return look(q) && one != other ? pairs.between(one, other) : NO_PAIR;
+        return look(q) && one != other ? Pairs.between(known, hands, one, other) : NO_PAIR;
     }
 
     public int group(int report, int q) {
@@ -276,7 +276,7 @@ public final class TidingsDesk {
             return false;
         }
         if (!grouped) {
-            pairs.reckon();
+            pairs.reckon(known, hands);
             grouping.find(pairs, known.size(), openCost);
             grouped = true;
         }
@@ -800,24 +800,20 @@ public final class TidingsDesk {
         private static final int NAME_GAIN = 12;
         private static final int MANY_HOLDERS = 4;
 
-        private final Known known;
-        private final Hands hands;
         private final int[][] costs;
         private final int[] partners;
 
-        Pairs(Known known, Hands hands) {
-            this.known = known;
-            this.hands = hands;
+        Pairs() {
             costs = new int[MAX_REPORTS][MAX_REPORTS];
             partners = new int[MAX_REPORTS];
         }
 
         /** Reckons the costs of all pairs known, and the partners that a hand told each report to be with. */
-        void reckon() {
+        void reckon(Known known, Hands hands) {
             for (int one = 0; one < known.size() && one < MAX_REPORTS; one++) {
                 partners[one] = 0;
                 for (int other = 0; other < known.size() && other < MAX_REPORTS; other++) {
-                    costs[one][other] = one == other ? 0 : between(one, other);
+                    costs[one][other] = one == other ? 0 : between(known, hands, one, other);
                     if (hands.wordOf(one, other) == TOGETHER) {
                         partners[one] |= 1 << other;
                     }
@@ -834,7 +830,7 @@ public final class TidingsDesk {
             return report >= 0 && report < MAX_REPORTS ? partners[report] : 0;
         }
 
-        int between(int one, int other) {
+        static int between(Known known, Hands hands, int one, int other) {
             Facts a = known.factsOf(one);
             Facts b = known.factsOf(other);
             if (a == null || b == null) {
@@ -843,7 +839,7 @@ public final class TidingsDesk {
             if (hands.wordOf(one, other) == APART || differ(a, b, KIND) || datesApart(a, b) > FAR_DATES) {
                 return MUST_NOT;
             }
-            int cost = datesApart(a, b) - nameGain(a, b);
+            int cost = datesApart(a, b) - nameGain(known, a, b);
             cost += differ(a, b, PLACE) ? OTHER_PLACE : 0;
             cost += numbersPart(a, b) ? OTHER_NUMBER : 0;
             return cost;
@@ -864,7 +860,7 @@ public final class TidingsDesk {
             return a.highOf() < b.valueOf(NUMBER) || b.highOf() < a.valueOf(NUMBER);
         }
 
-        private int nameGain(Facts a, Facts b) {
+        private static int nameGain(Known known, Facts a, Facts b) {
             int gain = 0;
             for (int i = 0; i < MAX_NAMES; i++) {
                 int name = a.nameAt(i);
@@ -1024,6 +1020,7 @@ public final class TidingsDesk {
     private static final class FormSearch {
         private static final int LACKED = 1;
         private static final int BESIDES = 2;
+        private static final int DEARER_THAN_ALL = 1000000;
 
         private final int[][] costs;
         private final int[] found;
@@ -1045,7 +1042,7 @@ public final class TidingsDesk {
             foundCost = 0;
             if (reports > 0) {
                 reckon(known);
-                foundCost = Integer.MAX_VALUE;
+                foundCost = DEARER_THAN_ALL;
                 weighOnes(price);
                 weighTwos(2 * price);
                 weighThrees(3 * price);

@@ -132,6 +132,11 @@ public final class PromisesTest {
         }
         due("feed 99", x.feed(full, full, full, full, 0x00202020), 99);
         due("two more are too many", x.feed(0x20000000, 0, 0, 0, 0x20), -1);
+        for (int i = 0; i < 5; i++) {
+            int[] five = new int[5];
+            five[i] = 0x00200020;
+            due("two more in number " + i, x.feed(five[0], five[1], five[2], five[3], five[4]), -1);
+        }
         due("none of them came", x.count(3), 99);
         due("one more", x.feed(0, 0, 0, 0, 0x20), 100);
         due("one too many", x.feed(0, 0, 0x20, 0, 0), -1);
@@ -181,6 +186,8 @@ public final class PromisesTest {
         faultDue("p1d2", 2);
         faultDue("p1-2", 2);
         faultDue("p1\t", 2);
+        faultDue("p1\u0001", 2);
+        faultDue("p1\u00ff", 2);
         faultDue("n1-2-3", 4);
         faultDue("n1x", 2);
         faultDue("wab1", 3);
@@ -541,6 +548,20 @@ public final class PromisesTest {
         due("a chain", z.cost(0), 6);
         z.hand(0, 2, 2);
         due("a broken chain", z.cost(0), -10000);
+        // A longer chain, 2 with 0 with 1 with 3, that must not fall to two pairs.
+        TidingsDesk w = desk("p1", "p2", "n1", "n2");
+        w.hand(0, 1, 1);
+        w.hand(0, 2, 1);
+        w.hand(1, 3, 1);
+        w.opens(5);
+        due("a longer chain", w.cost(0), 5 + 6 + 4);
+        due("in one GROUP", w.groups(0), 1);
+        // What is gained elsewhere makes up for no MUST NOT.
+        TidingsDesk v = desk("wa,b,c", "wa,b,c", "k1", "k2");
+        v.opens(0);
+        v.hand(2, 3, 1);
+        due("none, though names agree", v.cost(0), -10000);
+        due("none, though names agree", v.group(0, 0), -1);
     }
 
     private static void promise18() {
@@ -654,6 +675,13 @@ public final class PromisesTest {
         x.deny(0, 1);
         formsDue(x, 1, 1, 12, 16);
         formsDue(x, 0, 0, 3, 12, 16);
+        TidingsDesk v = desk("p1", "d1 n1 wa", "p1 d1 n1 wa k1");
+        v.price(0);
+        formsDue(v, 0, 0, 1, 14, 31);
+        // What one has besides costs 2, and what three lack 3.
+        TidingsDesk u = desk("p1", "p1", "p1 d1", "p1");
+        u.price(4);
+        formsDue(u, 0, 4 + 2, 1);
         // What nobody has may yet be the best FORM.
         TidingsDesk y = desk("p1 d1", "d1 n1", "p1 n1");
         formsDue(y, 0, 6, 7);
