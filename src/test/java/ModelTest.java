@@ -499,7 +499,8 @@ public final class ModelTest {
 
     private int some(int bound) {
         int n = random.nextInt(40);
-        return n == 0 ? -1 : n == 1 ? bound : n == 2 && random.nextInt(4) == 0 ? random.nextInt() : random.nextInt(bound);
+        int any = n == 2 && random.nextInt(4) == 0 ? random.nextInt() : random.nextInt(bound);
+        return n == 0 ? -1 : n == 1 ? bound : any;
     }
 
     private String number(int bound) {
@@ -549,7 +550,8 @@ public final class ModelTest {
     }
 
     private void feed(int[] five) {
-        due("feed(" + Arrays.toString(five) + ")", desk.feed(five[0], five[1], five[2], five[3], five[4]), model.feed(five));
+        int got = desk.feed(five[0], five[1], five[2], five[3], five[4]);
+        due("feed(" + Arrays.toString(five) + ")", got, model.feed(five));
     }
 
     private void feed(String text) {
@@ -594,7 +596,7 @@ public final class ModelTest {
                 break;
             case 6:
                 if (handsOf > 0) {
-                    int word = random.nextInt(handsOf) > 0 ? 2 : some(3);
+                    int word = random.nextInt(3) == 0 ? some(3) : handsOf == 1 ? 2 : 1;
                     due("hand(" + a + ", " + b + ", " + word + ")", desk.hand(a, b, word) ? 1 : 0,
                         model.hand(a, b, word) ? 1 : 0);
                 }
