@@ -39,11 +39,12 @@ public final class TermsBoundsTest {
 
     @Sentence("An object is used for at most 512 calls after it has been made")
     static void the512thCallIsAnswered() {
-        Desk x = Desk.of("p1 d1 n1 wa k1", "p2 d2 n2 wa k1");
-        while (x.calls() < Desk.MOST_CALLS - 1) {
-            x.due(15, "cost", 0);
+        Desk x = Desk.of("p1", "p1", "p1", "p1", "p1", "p1", "p1", "p1", "p1").due(1, "days", 1).reports("d1");
+        // Another q each time, so that nothing which was worked out before can be told again.
+        while (x.calls() < Desk.MOST_CALLS) {
+            int q = x.calls() % 4 / 2;
+            x.due(x.calls() % 2 == 0 ? 10 : 3 + 3 * q, x.calls() % 2 == 0 ? "cost" : "forms", q);
         }
-        x.due(15, "cost", 0);
     }
 
     @Sentence("`NONE = -1`: None; refused.")
@@ -450,6 +451,16 @@ public final class TermsBoundsTest {
         x.due(-4, "pair", 0, 1, 2).due(0, "pair", 0, 3, 2).due(0, "pair", 0, 1, 1);
     }
 
+    @Sentence("Their COST: how far dates are apart (both known), 6 if places differ (both known)")
+    static void aReportOfWhichAllIsDeniedCostsNothing() {
+        Desk x = Desk.of(ALL, "p2 d900 n2 wa k2").due(1000, "pair", 0, 1, 0).due(1, "days", 1);
+        for (int f = 0; f < 5; f++) {
+            x.due(TRUE, "deny", 1, f);
+        }
+        x.due(0, "pair", 0, 1, 1).due(0, "shape", 1, 1).grouped(1, 10, 0, 0).grouped(0, 20, 0, 1);
+        x.happens(1, 1, 1, 1, 1, 1, 1, 2, 0).found(1, 3 + 3 + 1, 1, 31).due(TRUE, "price", 50).found(1, 50 + 5, 31);
+    }
+
     @Sentence("Their COST")
     static void thePairsGreatestAndLeastCost() {
         pairDue(9 + 6 + 4, "p0 d0 n0 wa,b,c k0", "p99 d9 n9999 wd,e,f k0");
@@ -627,10 +638,22 @@ public final class TermsBoundsTest {
         Desk.of("p1").due(TRUE, "deny", 0, 0).found(0, 3 + 1, 1);
         Desk.of("k1", "d1", "p1").due(TRUE, "price", 0).found(0, 0, 1, 2, 16);
         Desk.of(ALL, "p1", "wa k1").due(TRUE, "price", 0).found(0, 0, 1, 24, 31);
+        // The lowest three that may be, the highest, and the highest two.
+        Desk.of("p1 d1", "d1", "p1").due(TRUE, "price", 0).found(0, 0, 1, 2, 3);
+        Desk.of(ALL, "d1 n1 wa k1", "p1 n1 wa k1").due(TRUE, "price", 0).found(0, 0, 29, 30, 31);
+        Desk.of(ALL, "d1 n1 wa k1").due(TRUE, "price", 0).found(0, 0, 30, 31);
         // A fourth would cost nothing, but three is all.
         Desk.of("p1", "d1", "n1", "k1").due(TRUE, "price", 0).found(0, 2, 1, 2, 20);
         Desk all = Desk.of("p1", "d1", "p1 d1", "n1", "p1 n1", "d1 n1", "p1 d1 n1", "wa", "p1 wa", "d1 wa");
         all.due(TRUE, "price", 0).due(-1, "form", 3, 0).due(-1, "form", -1, 0);
+    }
+
+    @Sentence("a REPORT costs, by the one that costs least for it")
+    static void theFormThatCostsLeastCounts() {
+        // The last of them has one besides the lower FORM and lacks three of the higher.
+        Desk x = Desk.of("p1", "p1", ALL, ALL, "p1 d1").due(TRUE, "price", 2).found(0, 4 + 2, 1, 31);
+        x.corrects(4, "n1 k1").found(0, 4 + 1, 1, 31).due(TRUE, "deny", 4, 1).due(TRUE, "deny", 4, 2);
+        x.due(TRUE, "deny", 4, 4).found(0, 4, 1, 31).due(TRUE, "deny", 4, 0).found(0, 4 + 1, 1, 31);
     }
 
     @Sentence("1 for each FIELD of the FORM that it lacks and 2 for each that it has besides")
